@@ -1140,8 +1140,7 @@ public final class RowPresolve {
                 return false;
             }
             for (int y = 0; y < table.columns; y++) {
-                long factor = factorOf(row, x, y);
-                if (factor != 0 && beyond(table.cost[y] + factor * table.cost[x], SMALL_COEFFICIENT)) {
+                if (beyond(table.cost[y] + factorOf(row, x, y) * table.cost[x], SMALL_COEFFICIENT)) {
                     return false;
                 }
             }
@@ -1194,8 +1193,8 @@ public final class RowPresolve {
             }
             small.putInColumn[i] = x;
             small.putInShift[i] = shift;
-            for (int y = 0; y < MOST; y++) {
-                small.putInFactors[i][y] = y < table.columns ? factorOf(row, x, y) : 0;
+            for (int y = 0; y < table.columns; y++) {
+                small.putInFactors[i][y] = factorOf(row, x, y);
             }
             small.putIns = i + 1;
         }

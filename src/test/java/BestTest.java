@@ -22,6 +22,17 @@ public final class BestTest {
         Check.refuses(x, "at", Check.INDEX, () -> x.bestAt(-1));
         Check.raises("of the small", Check.STATE, () -> x.best(true));
         Check.is("a call that throws changes nothing", -1, x.bestValue());
+        for (int i = 0; i < 3; i++) {
+            Check.is("best again", 1, x.best(false));
+            Check.is("its value", -1, x.bestValue());
+            Check.is("at", 0, x.bestAt(0));
+        }
+        x.clear();
+        Check.is("best of no columns", 1, x.best(false));
+        x.column(7, 8, 1);
+        Check.is("best of another whole", 1, x.best(false));
+        Check.is("its value", 7, x.bestValue());
+        Check.is("at", 7, x.bestAt(0));
     }
 
     private static void firstOfAlike() {
@@ -49,6 +60,9 @@ public final class BestTest {
         Check.is("the same value", 5, x.bestValue());
         Check.is("the fixed column", 4, x.bestAt(0));
         Check.raises("at", Check.INDEX, () -> x.bestAt(4));
+        Check.is("best of the small again", 1, x.best(true));
+        Check.is("value", 5, x.bestValue());
+        Check.is("the fixed column", 0, x.bestAt(0));
         RowPresolve rows = Told.columns(0, 9, -1);
         Told.atMost(rows, 4, 1);
         Told.atMost(rows, 7, 1);

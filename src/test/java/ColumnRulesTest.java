@@ -7,6 +7,7 @@ public final class ColumnRulesTest {
         sideHigh();
         sideNothing();
         putIn();
+        putInRowsBefore();
         putInWhich();
         putInNarrows();
         putInRests();
@@ -114,6 +115,19 @@ public final class ColumnRulesTest {
         Check.is("rest of a row with x", 5, x.rest(0, 2));
         Check.is("rest of a row without x", 8, x.rest(0, 3));
         Check.is("rest of the row itself", 1, x.rest(0, 0));
+    }
+
+    private static void putInRowsBefore() {
+        RowPresolve x = Told.alike(2, -50, 50);
+        Told.atMost(x, 7, 1, 2);
+        Told.equal(x, 3, 4, 1);
+        x.shrink(Told.rules(9), 1);
+        Check.rowIs(x, 0, 0, 1, -7, 0);
+        Check.is("rest", 3, x.rest(0, 0));
+        RowPresolve limit = Told.alike(2, -9, 9);
+        Told.atMost(limit, 7, 1, -1000);
+        Told.equal(limit, 3, 1000, 1);
+        Check.is("nothing is done", 1, limit.shrink(Told.rules(9), 50));
     }
 
     private static void putInWhich() {
@@ -236,6 +250,10 @@ public final class ColumnRulesTest {
         Check.is("back", 1, x.back());
         Check.is("x of it", 1, x.at(2));
         Check.is("value", 11, x.value());
+        RowPresolve two = Told.columns(0, 4, 0, -9, 9, 0);
+        Told.equal(two, 5, 2, 1);
+        two.shrink(Told.rules(11), 50);
+        Check.acts(two, "11 0 1 5 5");
         RowPresolve minus = Told.columns(0, 4, 1, 0, 3, 2, -20, 10, 5);
         Told.equal(minus, 6, 2, -3, -1);
         minus.shrink(Told.rules(11), 50);

@@ -155,5 +155,12 @@ public final class LookTest {
         Check.no("fixed itself", x.same(7, 7));
         Check.no("fixed and there", x.same(7, 0));
         Check.no("there and fixed", x.same(0, 7));
+        RowPresolve y = Told.columns(4, 4, 0, 4, 9, 0);
+        y.shrink(Told.rules(6, 8), 1);
+        Check.is("one is fixed", 1, y.state(0));
+        Check.is("one is there", 0, y.state(1));
+        Check.no("alike but for that", y.same(0, 1));
+        Check.no("alike but for that", y.same(1, 0));
+        Check.yes("itself", y.same(1, 1));
     }
 }

@@ -10,8 +10,9 @@ public final class RandomTest {
     public static void main(String[] args) {
         for (int i = 0; i < 4000; i++) {
             RowPresolve x = new RowPresolve();
-            int columns = 1 + RANDOM.nextInt(5);
-            tell(x, columns);
+            boolean full = i % 10 == 0;
+            int columns = full ? 12 : 1 + RANDOM.nextInt(5);
+            tell(x, columns, full ? 12 : RANDOM.nextInt(7));
             for (int k = 0; k < 3; k++) {
                 int rules = k == 0 ? 2047 : RANDOM.nextInt(2048);
                 compare(x, columns, rules, k == 1 ? 1 + RANDOM.nextInt(3) : 50);
@@ -24,15 +25,14 @@ public final class RandomTest {
     }
 
     /** Mostly with a point that fits, so that there is something to be made smaller. */
-    private static void tell(RowPresolve x, int columns) {
+    private static void tell(RowPresolve x, int columns, int rows) {
         int[] point = new int[columns];
         for (int column = 0; column < columns; column++) {
             int low = RANDOM.nextInt(4) - 2;
-            int width = RANDOM.nextInt(4);
+            int width = columns < 6 ? RANDOM.nextInt(4) : (column % 5 + 1) / 2 % 2;
             x.column(low, low + width, RANDOM.nextInt(11) - 5);
             point[column] = low + RANDOM.nextInt(width + 1);
         }
-        int rows = RANDOM.nextInt(7);
         for (int row = 0; row < rows; row++) {
             int[] a = new int[columns];
             int sum = 0;

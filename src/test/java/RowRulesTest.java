@@ -277,6 +277,11 @@ public final class RowRulesTest {
         Check.is("rest", 2, x.rest(0, 1));
         Check.rowIs(x, 4, 0, 6, 2, 4);
         Check.is("a row without terms has no twin", 0, x.kind(6));
+        RowPresolve one = Told.alike(1, 0, 9);
+        Told.atMost(one, 4, 1);
+        Told.atMost(one, 5, 1);
+        one.shrink(Told.rules(7), 50);
+        Check.acts(one, "7 1 -1 0 5");
         RowPresolve equal = Told.alike(2, 0, 9);
         Told.equal(equal, 8, 1, 2);
         Told.equal(equal, 8, 1, 2);

@@ -109,6 +109,11 @@ public final class ShrinkTest {
             Check.is("back", 1, z.back());
             Check.is("at", 5, z.at(1));
         }
+        z.shrink(0, 1);
+        z.put(0, 4);
+        z.put(1, 6);
+        Check.is("nothing is put in now", 0, z.back());
+        Check.is("at", 6, z.at(1));
     }
 
     /** Row 0 has one term; rule 2 comes before rule 3 whatever the bits are, and rule 3 before rule 6. */

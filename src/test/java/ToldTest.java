@@ -110,8 +110,13 @@ public final class ToldTest {
         Check.is("what is told goes on", 0, x.state(0));
         Check.is("parts too", 1, x.parts());
         RowPresolve bare = new RowPresolve();
+        Check.raises("back without a small", Check.STATE, bare::back);
         bare.row(0, -1);
         Check.impossible(bare, Told.rules(1), 1);
+        Check.raises("back when it is impossible", Check.STATE, bare::back);
+        bare.row(0, 0);
+        Check.raises("certified when the small has ended", Check.STATE, bare::certified);
+        Check.raises("certificate too", Check.STATE, bare::certificate);
     }
 
     private static void certified() {
@@ -119,6 +124,7 @@ public final class ToldTest {
         Told.equal(x, 4000, 1);
         Check.is("shrink", 0, x.shrink(4, 1));
         Check.is("4000 points", 1, x.certified());
+        Check.is("once more", 1, x.certified());
         RowPresolve y = Told.alike(1, 0, 4000);
         Told.equal(y, 4001, 1);
         Check.is("shrink", 0, y.shrink(4, 1));
