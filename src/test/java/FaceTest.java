@@ -7,13 +7,17 @@ import java.util.TreeSet;
 
 /** The public face is the document's, with nothing more. */
 public final class FaceTest {
+    // With the exceptions that each may throw, in their order, the first words of their names only.
     private static final String[] METHODS = {
-        "int column(int,int,int)", "int row(int,int)", "void term(int,int,int)", "int clear()", "int shrink(int,int)",
-        "int state(int)", "int bound(int,boolean)", "int cost(int)", "int kind(int)", "long right(int)",
-        "int coefficient(int,int)", "long offset()", "int rest(int,int)", "int certificate()", "int certified()",
-        "int acts()", "long act(int,int)", "int parts()", "int clique(int)", "int cliqueAt(int,int)",
-        "boolean same(int,int)", "void put(int,int)", "int back()", "int at(int)", "long value()",
-        "int best(boolean)", "long bestValue()", "int bestAt(int)",
+        "int column(int,int,int) State Argument", "int row(int,int) State Argument",
+        "void term(int,int,int) Index Argument", "int clear()", "int shrink(int,int) Argument",
+        "int state(int) State Index", "int bound(int,boolean) State Index", "int cost(int) State Index",
+        "int kind(int) State Index", "long right(int) State Index", "int coefficient(int,int) State Index",
+        "long offset() State", "int rest(int,int) State Argument Index", "int certificate() State",
+        "int certified() State", "int acts() State", "long act(int,int) State Index Argument", "int parts() State",
+        "int clique(int) State Index", "int cliqueAt(int,int) State Index", "boolean same(int,int) State Index",
+        "void put(int,int) State Index Argument", "int back() State", "int at(int) State Index", "long value() State",
+        "int best(boolean) State", "long bestValue() State", "int bestAt(int) State Index",
     };
 
     public static void main(String[] args) {
@@ -48,7 +52,11 @@ public final class FaceTest {
         for (int i = 0; i < method.getParameterCount(); i++) {
             text.append(i == 0 ? "" : ",").append(method.getParameterTypes()[i].getName());
         }
-        return text.append(')').toString();
+        text.append(')');
+        for (Class<?> raised : method.getExceptionTypes()) {
+            text.append(' ').append(raised.getSimpleName().replaceAll("^Illegal|OutOfBoundsException$|Exception$", ""));
+        }
+        return text.toString();
     }
 
     private static void fieldsAndConstructors() {
