@@ -6,6 +6,7 @@ public final class ColumnRulesTest {
         sideLow();
         sideHigh();
         sideNothing();
+        sideCertificate();
         putIn();
         putInRowsBefore();
         putInWhich();
@@ -14,6 +15,7 @@ public final class ColumnRulesTest {
         putInImpossible();
         putInLimits();
         free();
+        freeCertificate();
         freeNothing();
         freeLimits();
         Check.end();
@@ -91,7 +93,18 @@ public final class ColumnRulesTest {
         Told.atMost(rests, -1, 1);
         rests.shrink(Told.rules(8), 50);
         Check.rests(rests, 0, 0, 7);
-        Check.is("certificate of all rows", 0, rests.shrink(Told.rules(3, 8), 50));
+    }
+
+    /** Column 0 goes to its side, then is fixed there: what its row makes impossible rests on all rows. */
+    private static void sideCertificate() {
+        RowPresolve x = Told.columns(0, 9, 1, 2, 5, -1, 0, 9, -1);
+        Told.atMost(x, 1, 1, 1);
+        Told.equal(x, 9, 0, 1, 1);
+        Told.equal(x, 9, 0, 1, 1);
+        Check.impossible(x, Told.rules(3, 6, 8), 7);
+        Check.acts(x, "8 -1 0 2 0; 6 -1 0 4 0");
+        Check.is("rest of its row", 7, x.rest(0, 0));
+        Check.is("rest of another", 2, x.rest(0, 1));
     }
 
     private static void putIn() {
@@ -265,6 +278,19 @@ public final class ColumnRulesTest {
         minus.put(1, 2);
         Check.is("back", 1, minus.back());
         Check.is("x of it", -10, minus.at(2));
+    }
+
+    /** Behind it the rows that are left rest on themselves: the row that is gone is not in the certificate. */
+    private static void freeCertificate() {
+        RowPresolve x = Told.columns(0, 8, 0, 0, 8, 0, -20, 20, 0);
+        Told.equal(x, 6, 1, 1, 1);
+        Told.atMost(x, -1, 1, -1);
+        Told.atMost(x, -1, -1, 1);
+        Check.impossible(x, Told.rules(5, 11), 6);
+        Check.is("put in", 2, x.state(2));
+        Check.is("rest of the row that is gone", 1, x.rest(0, 0));
+        Check.is("rest", 2, x.rest(0, 1));
+        Check.rests(x, 2, 1, 1);
     }
 
     private static void freeNothing() {

@@ -413,5 +413,13 @@ public final class RowRulesTest {
         low.shrink(Told.rules(3, 10), 1);
         Check.rowIs(low, 1, 0, 2, 5, 1);
         Check.is("rest", 3, low.rest(0, 1));
+        RowPresolve wrong = Told.alike(2, 0, 9);
+        Told.atMost(wrong, 1, 1);
+        Told.atMost(wrong, 2, 0, 1);
+        Told.atMost(wrong, 5, 7, 1);
+        Told.atMost(wrong, 99, 1, 1);
+        Told.equal(wrong, 3, 4, 1);
+        Check.impossible(wrong, Told.rules(3, 7, 10), 1 + 2 + 4 + 16);
+        Check.rowIs(wrong, 2, 0, 2, 4, 1);
     }
 }
