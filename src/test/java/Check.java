@@ -6,6 +6,7 @@ final class Check {
 
     private static int done = 0;
     private static int wrong = 0;
+    private static String place = "";
 
     interface Call {
         void run();
@@ -26,7 +27,7 @@ final class Check {
         done++;
         if (!due.equals(got)) {
             wrong++;
-            System.out.println(what + " answered " + got + ", due is " + due);
+            System.out.println(place + what + " answered " + got + ", due is " + due);
         }
     }
 
@@ -36,6 +37,15 @@ final class Check {
 
     static void no(String what, boolean got) {
         is(what, "false", Boolean.toString(got));
+    }
+
+    /** A test with a name of its own, which stands before all that is wrong in it; it must not be empty. */
+    static void within(String name, Call test) {
+        int before = done;
+        place = name + ": ";
+        is("the test raised", "nothing", raised(test));
+        place = "";
+        yes(name + " is looked at", done > before + 1);
     }
 
     /** The very class counts: what the machine throws is below IndexOutOfBoundsException and the like. */
@@ -67,6 +77,12 @@ final class Check {
             }
         }
         is("the acts", due, got.toString());
+    }
+
+    /** The acts of one round. */
+    static void actsOf(RowPresolve x, int rules, String due) {
+        is("shrink", 1, x.shrink(rules, 1));
+        acts(x, due);
     }
 
     static void columnIs(RowPresolve x, int column, int state, int low, int high, int cost) {
@@ -101,21 +117,45 @@ final class Check {
         is("certified", 1, x.certified());
     }
 
-    /** All answers that can be had without changing anything. */
+    /** All answers that can be had without changing anything, in less than 512 calls. */
     static String everything(RowPresolve x) {
         StringBuilder all = new StringBuilder();
-        add(all, x::offset);
-        add(all, x::certificate);
-        add(all, x::certified);
-        add(all, x::acts);
-        add(all, x::parts);
-        add(all, x::value);
-        add(all, x::bestValue);
-        for (int i = 0; i < 13; i++) {
-            addColumn(all, x, i);
-            addRow(all, x, i);
+        Answer[] single = {x::offset, x::certificate, x::certified, x::acts, x::parts, x::value, x::bestValue};
+        for (Answer answer : single) {
+            add(all, answer);
+        }
+        int columns = countPlaces(x::state);
+        for (int column = 0; column <= columns; column++) {
+            addColumn(all, x, column);
+        }
+        int rows = countPlaces(x::kind);
+        for (int row = 0; row <= rows; row++) {
+            addRow(all, x, row, columns);
+        }
+        for (int i = 0; i < 20 && raised(actOf(x, i)).equals("nothing"); i++) {
+            addAct(all, x, i);
         }
         return all.toString();
+    }
+
+    private interface Place {
+        long ask(int i);
+    }
+
+    private static int countPlaces(Place place) {
+        int count = 0;
+        while (count < 13 && raised(askOf(place, count)).equals("nothing")) {
+            count++;
+        }
+        return count;
+    }
+
+    private static Call askOf(Place place, int i) {
+        return () -> place.ask(i);
+    }
+
+    private static Call actOf(RowPresolve x, int i) {
+        return () -> x.act(i, 0);
     }
 
     private static void addColumn(StringBuilder all, RowPresolve x, int column) {
@@ -125,32 +165,37 @@ final class Check {
         add(all, () -> x.cost(column));
         add(all, () -> x.rest(1, column));
         add(all, () -> x.rest(2, column));
+        add(all, () -> x.same(column, 0) ? 1 : 0);
         add(all, () -> x.at(column));
         add(all, () -> x.bestAt(column));
     }
 
-    private static void addRow(StringBuilder all, RowPresolve x, int row) {
+    private static void addRow(StringBuilder all, RowPresolve x, int row, int columns) {
         add(all, () -> x.kind(row));
         add(all, () -> x.right(row));
         add(all, () -> x.rest(0, row));
+        add(all, () -> x.cliqueAt(row, 0));
         add(all, () -> x.clique(row));
-        for (int column = 0; column < 13; column++) {
+        for (int column = 0; column < columns; column++) {
             int at = column;
             add(all, () -> x.coefficient(row, at));
         }
-        for (int what = 0; what < 5; what++) {
-            int at = what;
-            add(all, () -> x.act(row, at));
+    }
+
+    private static void addAct(StringBuilder all, RowPresolve x, int i) {
+        for (int what = 1; what < 5; what++) {
+            int number = what;
+            add(all, () -> x.act(i, number));
         }
     }
 
-    private static void add(StringBuilder all, Answer answer) {
+    static void add(StringBuilder all, Answer answer) {
         long[] got = new long[1];
         String raised = raised(() -> got[0] = answer.get());
         all.append(raised.equals("nothing") ? Long.toString(got[0]) : raised).append(' ');
     }
 
-    private static String raised(Call call) {
+    static String raised(Call call) {
         try {
             call.run();
             return "nothing";

@@ -217,10 +217,7 @@ public final class ColumnRulesTest {
         Check.impossible(y, Told.rules(3, 9), 7);
     }
 
-    /**
-     * Rights beyond 10^11 and s R times a cost beyond 10^15 can't come about with such columns and rows: each row's
-     * sum less its right stays what it was, whatever is put in.
-     */
+    /** Coefficients and costs; the limits of rights and of s R times a cost are looked at by ColumnRuleEdges. */
     private static void putInLimits() {
         int[][] coefficients = {{1000, -1000, 0, 2}, {1000, 1000, 0, 2}, {1000, -1000, 1, 0}, {1000, 1000, -1, 0},
             {1000, -1000, -1, 2}, {-1000, 1000, 1, 0}, {-1000, -1000, -1, 0}};
