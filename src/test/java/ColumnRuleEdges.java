@@ -91,18 +91,22 @@ final class ColumnRuleEdges {
                 Check.rowIs(x, row, row % 2, -sign * (1000000L + 10000000L * (row + 1)), new int[12]);
             }
         }
-        RowPresolve rests = Told.alike(2, 0, 9);
+        RowPresolve rests = Told.alike(3, 0, 9);
         Told.atMost(rests, 4, 1);
         Told.atMost(rests, -4, -1);
-        Told.atMost(rests, 7, -2, 1);
-        Told.atMost(rests, 7, 0, 1);
-        rests.shrink(Told.rules(3, 6), 1);
-        Check.rowIs(rests, 0, -1, 4, 0, 0);
+        for (int a = -2; a <= 2; a++) {
+            Told.atMost(rests, 7, a, 1, 1);
+        }
+        Check.is("shrink", 1, rests.shrink(Told.rules(3, 6), 1));
+        Check.rowIs(rests, 0, -1, 4, 0, 0, 0);
+        Check.rowIs(rests, 1, -1, -4, 0, 0, 0);
         Check.is("rest of a row that is gone", 1, rests.rest(0, 0));
-        Check.rowIs(rests, 2, 0, 15, 0, 1);
-        Check.is("rest of a row with a term", 1 + 2 + 4, rests.rest(0, 2));
-        Check.is("rest of a row without", 8, rests.rest(0, 3));
-        Check.is("right of a row without", 7, rests.right(3));
+        Check.is("rest of a row that is gone", 2, rests.rest(0, 1));
+        for (int a = -2; a <= 2; a++) {
+            int row = 4 + a;
+            Check.rowIs(rests, row, 0, 7 - 4 * a, 0, 1, 1);
+            Check.is("rest with a term " + a, (1 << row) + (a == 0 ? 0 : 1 + 2), rests.rest(0, row));
+        }
     }
 
     private static void fixOffset() {
@@ -190,8 +194,7 @@ final class ColumnRuleEdges {
                 for (int i = 0; i < terms; i++) {
                     x.term(0, 11 - i, 1);
                 }
-                x.shrink(Told.rules(9), 1);
-                Check.acts(x, kind == 1 && terms == 2 ? "9 0 11 5 0" : "");
+                Check.actsOf(x, Told.rules(9), kind == 1 && terms == 2 ? "9 0 11 5 0" : "");
             }
         }
         RowPresolve fixed = Told.columns(-9, 9, 0, 4, 4, 0, -9, 9, 0);
@@ -250,6 +253,19 @@ final class ColumnRuleEdges {
         Told.atMost(first, 5, -1, 1000);
         Told.equal(first, 0, 1000, 1);
         Check.actsOf(first, Told.rules(9), "");
+        for (int d = -1; d <= 1; d++) {
+            for (int b = -1; b <= 1; b += 2) {
+                RowPresolve later = Told.alike(3, -9, 9);
+                Told.equal(later, 0, 1000, -1);
+                Told.equal(later, 0, b, 0, 1);
+                Told.atMost(later, 5, 0, 1000, d);
+                Told.atMost(later, 5, 0, 0, 2);
+                later.shrink(Told.rules(9), 1);
+                int made = 1000000 - b * d;
+                Check.is("state at " + made, made <= 1000000 ? 2 : 0, later.state(2));
+                Check.is("coefficient", made <= 1000000 ? made : 1000000, later.coefficient(2, 0));
+            }
+        }
         RowPresolve gone = Told.alike(2, -9, 9);
         Told.equal(gone, 0, 1000, 1);
         Told.atMost(gone, 1000000, -1, 1000);
@@ -495,6 +511,10 @@ final class ColumnRuleEdges {
         Check.actsOf(second, Told.rules(11), "");
         second.shrink(Told.rules(4, 11), 1);
         Check.acts(second, "4 1 -1 0 500; 11 0 1 5 0");
+        RowPresolve before = Told.columns(0, 1, 0, -9, 9, 0);
+        Told.atMost(before, 500, 1, 1);
+        Told.equal(before, 0, 2, 1);
+        Check.actsOf(before, Told.rules(11), "");
         RowPresolve none = Told.columns(0, 1, 0);
         Told.equal(none, 0);
         Check.actsOf(none, Told.rules(11), "");
@@ -515,8 +535,7 @@ final class ColumnRuleEdges {
                 for (int i = 0; i < terms; i++) {
                     x.term(0, 11 - i, i == 0 ? 1 : 2);
                 }
-                x.shrink(Told.rules(11), 1);
-                Check.acts(x, kind == 1 && terms >= 2 ? "11 0 11 5 7" : "");
+                Check.actsOf(x, Told.rules(11), kind == 1 && terms >= 2 ? "11 0 11 5 7" : "");
             }
         }
     }

@@ -1,6 +1,9 @@
 /** The paragraph "Exceptions": each method, at each kind of object, with arguments within and beyond. */
 final class ExceptionEdges {
-    private static final int[] NUMBERS_OF_FEW = {-1001, -1000, 1000, 1001};
+    private static final int[] COEFFICIENTS = {-1001, -1000, 1000, 1001};
+    private static final Edges.Use[] ENDING = {
+        x -> x.column(0, 0, 0), x -> x.row(0, 0), x -> x.term(0, 0, 1), x -> x.clear(),
+    };
 
     private final String name;
     private final Edges.Make make;
@@ -98,7 +101,7 @@ final class ExceptionEdges {
         }
         for (int row : around(rows)) {
             for (int column : around(columns)) {
-                for (int a : NUMBERS_OF_FEW) {
+                for (int a : COEFFICIENTS) {
                     first("term(" + row + ", " + column + ", " + a + ")", x -> x.term(row, column, a),
                             Check.INDEX, noRow(row) || noColumn(column), Check.ARGUMENT, Math.abs(a) > 1000);
                 }
@@ -225,10 +228,6 @@ final class ExceptionEdges {
         Check.raises("term(1, 0, 1)", Check.INDEX, () -> columns.term(1, 0, 1));
     }
 
-    private static final Edges.Use[] ENDING = {
-        x -> x.column(0, 0, 0), x -> x.row(0, 0), x -> x.term(0, 0, 1), x -> x.clear(),
-    };
-
     private static void endOfSmall() {
         Edges.Make[] objects = {Edges::small, Edges::found, Edges::impossible};
         for (Edges.Make make : objects) {
@@ -276,15 +275,18 @@ final class ExceptionEdges {
     }
 
     private static void noSmall() {
-        for (int i = -1; i < ENDING.length; i++) {
-            for (Edges.Use call : afterSmall()) {
-                RowPresolve x = i < 0 ? Edges.told() : Edges.found();
-                if (i >= 0) {
-                    ENDING[i].on(x);
-                }
-                Check.raises("without a small", Check.STATE, () -> call.on(x));
+        for (Edges.Use call : afterSmall()) {
+            Edges.refused("never made", Check.STATE, Edges::told, call);
+            for (Edges.Use ending : ENDING) {
+                Edges.refused("ended", Check.STATE, () -> ended(Edges.found(), ending), call);
+                Edges.refused("ended when impossible", Check.STATE, () -> ended(Edges.impossible(), ending), call);
             }
         }
+    }
+
+    private static RowPresolve ended(RowPresolve x, Edges.Use ending) {
+        ending.on(x);
+        return x;
     }
 
     private static Edges.Use[] afterSmall() {

@@ -35,6 +35,12 @@ final class LookEdges {
             apart.shrink(0, 1);
             Check.is("one row", 1, apart.parts());
         }
+        RowPresolve mixed = Told.alike(12, 0, 9);
+        Told.atMost(mixed, 5, 1, 0, 0, 1, 0, 0, 1, 0, 0, 1, 0, 0);
+        Told.atMost(mixed, 5, 0, 1, 0, 0, 1, 0, 0, 1, 0, 0, 1, 0);
+        Told.atMost(mixed, 5, 0, 0, 1, 0, 0, 1, 0, 0, 1, 0, 0, 1);
+        mixed.shrink(0, 1);
+        Check.is("each third column", 3, mixed.parts());
         RowPresolve fixed = Told.alike(12, 4, 4);
         Told.atMost(fixed, 50, ONES);
         fixed.shrink(Told.rules(6), 1);
@@ -89,6 +95,12 @@ final class LookEdges {
         Check.is("together just so much", 0, two.clique(1));
         two.shrink(Told.rules(4), 1);
         Check.is("the row is gone", 0, two.clique(1));
+        RowPresolve twin = Told.alike(2, 0, 1);
+        Told.atMost(twin, 1, 1, 1);
+        Told.atMost(twin, 1, 1, 1);
+        twin.shrink(Told.rules(7), 1);
+        Check.is("of two alike ones the one that is there", 2, twin.clique(0));
+        Check.is("and the one that is gone", 0, twin.clique(1));
         RowPresolve later = Told.columns(0, 2, 0, 0, 1, 0);
         Told.atMost(later, 1, 1);
         Told.atMost(later, 1, 1, 1);

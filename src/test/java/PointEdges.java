@@ -341,6 +341,19 @@ final class PointEdges {
         x.put(0, 1);
         x.back();
         Check.is("put and back leave it", 20 - 3, x.bestValue());
+        RowPresolve latest = Told.columns(-7, -5, 1, 3, 4, -1);
+        for (int i = 0; i < 3; i++) {
+            Check.is("best", 1, latest.best(false));
+            Check.is("each time the same", -7 - 4, latest.bestValue());
+            Check.is("and at the same point", -7, latest.bestAt(0));
+            Check.is("and at the same point", 4, latest.bestAt(1));
+        }
+        latest.row(0, -5);
+        latest.term(0, 1, -3);
+        latest.term(0, 0, -1);
+        latest.shrink(Told.rules(8), 1);
+        Check.is("of the small then", 1, latest.best(true));
+        Check.is("its value", -7 - 4, latest.bestValue());
         RowPresolve ends = new RowPresolve();
         for (int i = 0; i < 12; i++) {
             ends.column(10000, 10000, i % 2 == 0 ? 1000 : 999);

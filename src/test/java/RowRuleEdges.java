@@ -212,6 +212,10 @@ final class RowRuleEdges {
         Check.rowIs(x, 3, 1, 0, 0, 0, 1);
         Check.rowIs(x, 4, 0, 5, -1, 2, 0);
         Check.rowIs(x, 5, 0, 3, -1, 2, 0);
+        RowPresolve all = Told.alike(12, -9, 9);
+        Told.equal(all, 24, -2, 4, -6, 8, -10, 12, -14, 16, -18, 20, -22, 24);
+        Check.actsOf(all, Told.rules(2), "2 0 -1 3 -12");
+        Check.rowIs(all, 0, 1, -12, 1, -2, 3, -4, 5, -6, 7, -8, 9, -10, 11, -12);
         RowPresolve fixed = Told.columns(3, 3, 0, -9, 9, 0, -9, 9, 0);
         Told.equal(fixed, 5, -2, -1, 1);
         fixed.shrink(Told.rules(2, 6), 50);

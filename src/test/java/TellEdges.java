@@ -410,6 +410,15 @@ final class TellEdges {
         }
         x.shrink(Told.rules(6, 9), 50);
         Check.is("as it was at first", first, Check.everything(x));
+        x.shrink(0, 1);
+        int[] point = {0, 3, 4, -8};
+        for (int column = 0; column < 4; column++) {
+            x.put(column, point[column]);
+        }
+        Check.is("row 2 does not hold", 0, x.back());
+        for (int column = 0; column < 4; column++) {
+            Check.is("nothing is fixed or put in", point[column], x.at(column));
+        }
         RowPresolve y = Edges.impossible();
         y.shrink(0, 1);
         Check.is("no more impossible", -1, y.certificate());
