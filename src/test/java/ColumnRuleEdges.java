@@ -53,6 +53,9 @@ final class ColumnRuleEdges {
                 ColumnRuleEdges::freeWithin);
         Edges.says("Rule 11", "If the COST of such a y would be beyond -1000000 .. 1000000",
                 ColumnRuleEdges::freeCosts);
+        Edges.says("Rule 11", "or s R times the COST of x beyond -10^15 .. 10^15: nothing is done",
+                ColumnRuleEdges::freeShifts);
+        Edges.says("Rule 11", "x is s R less the sum of s b y for all other TERMS b y", ColumnRuleEdges::freeBack);
         Edges.says("Rule 11", "Else the COST of each such y is less by s b times that of x, OFFSET more by s R times "
                 + "that; x is PUT IN, the row is GONE: one ACT.", ColumnRuleEdges::freeDone);
     }
@@ -575,6 +578,38 @@ final class ColumnRuleEdges {
                         Check.is("offset", 0, x.offset());
                         Check.is("acts", within ? 1 : 0, x.acts());
                     }
+                }
+            }
+        }
+    }
+
+    /**
+     * Beyond 10^15 can't come about: R is within 10000 of the sum of the b y, and the limit of their COSTS keeps each
+     * b times the COST of x within 2000000, so s R times the COST of x is within some 2 times 10^11.
+     */
+    private static void freeShifts() {
+        for (int s = -1; s <= 1; s += 2) {
+            RowPresolve x = Told.columns(995, 1005, 0, -5000, 5000, 1000);
+            Told.equal(x, 1000000, 1000, s);
+            Told.atMost(x, 1000, 1);
+            Check.actsOf(x, Told.rules(11), "11 0 1 5 " + s * 1000000);
+            Check.is("offset", s * 1000000000L, x.offset());
+            Check.is("cost", -s * 1000000, x.cost(0));
+        }
+    }
+
+    private static void freeBack() {
+        for (int s = -1; s <= 1; s += 2) {
+            RowPresolve x = Told.columns(-2, 2, 0, -2, 2, 0, -100, 100, 0);
+            Told.equal(x, 7, 3, -5, s);
+            Told.atMost(x, 0, 1, 1);
+            x.shrink(Told.rules(11), 1);
+            for (int first = -2; first <= 2; first++) {
+                for (int second = -2; second <= 2; second++) {
+                    x.put(0, first);
+                    x.put(1, second);
+                    Check.is("back", first + second <= 0 ? 1 : 0, x.back());
+                    Check.is("at", s * (7 - 3 * first + 5 * second), x.at(2));
                 }
             }
         }

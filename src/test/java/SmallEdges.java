@@ -11,6 +11,8 @@ final class SmallEdges {
 
     private static void columnsAndRows() {
         Edges.says("Promise 7", "Of a column of the small: 0 THERE, 1 FIXED, 2 PUT IN.", SmallEdges::states);
+        Edges.says("Promise 7", "(so in all that follow); IndexOutOfBoundsException.",
+                () -> placesOfColumns((x, column) -> x.state(column)));
         Edges.says("Promise 8", "A bound of a column of the small (when it is not THERE: as it was at last).",
                 SmallEdges::bounds);
         Edges.says("Promise 8", "As state().", () -> placesOfColumns((x, column) -> x.bound(column, true)));
@@ -107,7 +109,6 @@ final class SmallEdges {
         for (int column = 0; column < 12; column++) {
             Check.is("all are fixed", 1, full.state(column));
         }
-        placesOfColumns((y, column) -> y.state(column));
     }
 
     private static void bounds() {

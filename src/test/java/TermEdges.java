@@ -12,11 +12,14 @@ final class TermEdges {
 
     private static void small() {
         Edges.says("Term 2", "THE SMALL begins as the whole is, with an OFFSET of 0.", TermEdges::asTheWhole);
+        Edges.says("Term 2", "Of its columns each is THERE (at first), FIXED, or PUT IN; of its rows each is THERE "
+                + "(at first) or GONE.", TermEdges::thereAtFirst);
         Edges.says("Term 2", "TERMS are those of columns that are THERE.", TermEdges::termsThere);
         Edges.says("Term 2", "Of a row that is GONE, and of a column that is not THERE, nothing is seen by the rules",
                 TermEdges::nothingSeen);
         Edges.says("Term 2", "LEAST and GREATEST of a row: the least and the greatest that its SUM can be between the "
                 + "columns' bounds", TermEdges::leastAndGreatest);
+        Edges.says("Term 2", "it COMES FROM those bounds at which it is so (of each TERM one)", TermEdges::comesFrom);
         Edges.says("Term 2", "DOWN and UP: quotients rounded to the whole number that is not above, not below.",
                 TermEdges::downAndUp);
         Edges.says("Term 2", "A REST is a set of rows of the whole: of each bound none at first, of each row itself.",
@@ -75,6 +78,38 @@ final class TermEdges {
         Check.rowIs(x, 1, 1, 1000000, 0, 1);
         Check.is("offset", 0, x.offset());
         Check.is("acts", 0, x.acts());
+    }
+
+    private static void thereAtFirst() {
+        for (int count = 0; count <= 12; count++) {
+            RowPresolve x = Told.alike(count, 1, 1);
+            for (int row = 0; row < count; row++) {
+                x.row(row % 2, 0);
+            }
+            x.shrink(0, 1);
+            for (int i = 0; i < count; i++) {
+                Check.is("state(" + i + ")", 0, x.state(i));
+                Check.is("kind(" + i + ")", i % 2, x.kind(i));
+            }
+            x.shrink(Told.rules(1, 6), 1);
+            for (int i = 0; i < count; i++) {
+                Check.is("state(" + i + ")", 1, x.state(i));
+                Check.is("kind(" + i + ")", -1, x.kind(i));
+            }
+        }
+    }
+
+    /** Column 0 is 3 .. 3, its low by row 0, its high by row 1: only one of both is where a least comes from. */
+    private static void comesFrom() {
+        int[][] cases = {{0, 2, 1, 1 + 4}, {1, 2, 1, 1 + 4}, {1, 4, 1, 2 + 4}, {0, -4, -1, 2 + 4}, {1, -4, -1, 2 + 4},
+            {1, -2, -1, 1 + 4}};
+        for (int[] c : cases) {
+            RowPresolve x = Told.columns(0, 9, 0, 0, 0, 0);
+            Told.atMost(x, -3, -1);
+            Told.atMost(x, 3, 1);
+            Told.row(x, c[0], c[1], c[2], 1);
+            Check.impossible(x, Told.rules(3, 4), c[3]);
+        }
     }
 
     /** With its first column fixed the row has one term, then none. */
