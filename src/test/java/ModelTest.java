@@ -49,6 +49,7 @@ public final class ModelTest {
             call("clear");
         }
         tellWhole();
+        look();
         for (int i = random.nextInt(3); i >= 0; i--) {
             call("shrink", rules(), random.nextInt(3) == 0 ? 1 + random.nextInt(4) : 50);
             for (int k = random.nextInt(60); k > 0; k--) {
@@ -57,7 +58,6 @@ public final class ModelTest {
             putAll();
             if (random.nextInt(4) == 0) {
                 changeWhole();
-                look();
                 look();
             }
         }
@@ -77,6 +77,10 @@ public final class ModelTest {
     }
 
     private void tellWhole() {
+        if (random.nextInt(6) == 0) {
+            tellChain();
+            return;
+        }
         int width = oneOf(1, 1, 2, 4, 9, 200, 10000);
         int most = oneOf(1, 1, 2, 4, 12, 1000);
         int count = random.nextInt(4) == 0 ? 12 : 5;
@@ -86,6 +90,27 @@ public final class ModelTest {
         int dense = 1 + random.nextInt(4);
         for (int i = random.nextInt(count + 1); i > 0; i--) {
             tellRow(most, dense);
+        }
+    }
+
+    /** Columns that are put in for one another, so that coefficients and costs come to their limits. */
+    private void tellChain() {
+        int links = 2 + random.nextInt(4);
+        for (int i = 0; i <= links; i++) {
+            call("column", -10000, 10000, oneOf(0, 1, any(1000), 1000));
+        }
+        for (int i = 0; i < links; i++) {
+            int row = rows;
+            call("row", 1, oneOf(0, 0, any(10), any(1000000)));
+            call("term", row, i, oneOf(1, -1));
+            call("term", row, oneOf(i + 1, i + 1, random.nextInt(12)), oneOf(1, 10, -10, any(1000), 1000, -1000));
+        }
+        for (int i = random.nextInt(3); i > 0; i--) {
+            int row = rows;
+            call("row", random.nextInt(2), any(1000000));
+            for (int k = 0; k < 3; k++) {
+                call("term", row, random.nextInt(links), oneOf(1, any(1000), 1000, -1000));
+            }
         }
     }
 
@@ -195,7 +220,7 @@ public final class ModelTest {
                 call("rest", which, which == 0 ? row() : column());
                 break;
             case 8, 9, 10:
-                call("act", hasSmall() ? random.nextInt(model.acts() + 1) : odd(), random.nextInt(5));
+                call("act", hasSmall() ? random.nextInt(model.acts() + 1) : odd(), random.nextInt(6));
                 break;
             case 11:
                 call("cliqueAt", row(), random.nextInt(4));
